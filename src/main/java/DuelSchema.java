@@ -35,8 +35,8 @@ public final class DuelSchema {
   private int queryCount = 0;
   private final Cache cache = new Cache();
   private final Cache trialCache = new Cache();
-  private final Planner planner = new Planner(store);
-  private final Runner runner = new Runner(store);
+  private final Planner planner = new Planner();
+  private final Runner runner = new Runner();
   private final Plan askedPlan = new Plan();
   // An appeal runs the plans of the round again, and bans told since would change them if drawn anew.
   private final Plan bookPlanOfRound = new Plan();
@@ -287,7 +287,8 @@ public final class DuelSchema {
   public long estimate(int duellist, int query)
       throws IllegalArgumentException, IndexOutOfBoundsException, UnsupportedOperationException {
     checkDuellist(duellist);
-    return drawPlan(duellist, needPositions(query)).guess();
+    planner.draw(askedPlan, duellist, store, needPositions(query), duel.bansFor(duellist));
+    return askedPlan.guess();
   }
 
   public int cold(int duellist, int query)
@@ -325,12 +326,12 @@ public final class DuelSchema {
 
   public int round(int query) throws IndexOutOfBoundsException, UnsupportedOperationException {
     Query asked = needPositions(query);
-    planner.draw(bookPlanOfRound, 0, asked, duel.bansFor(0));
-    planner.draw(countPlanOfRound, 1, asked, duel.bansFor(1));
+    planner.draw(bookPlanOfRound, 0, store, asked, duel.bansFor(0));
+    planner.draw(countPlanOfRound, 1, store, asked, duel.bansFor(1));
     queryOfRound = asked;
     boolean bookFirst = duel.roundCount() % 2 == 0;
-    int byFirst = runner.follow(asked, bookFirst ? bookPlanOfRound : countPlanOfRound, cache);
-    int bySecond = runner.follow(asked, bookFirst ? countPlanOfRound : bookPlanOfRound, cache);
+    int byFirst = runner.follow(store, asked, bookFirst ? bookPlanOfRound : countPlanOfRound, cache);
+    int bySecond = runner.follow(store, asked, bookFirst ? countPlanOfRound : bookPlanOfRound, cache);
     duel.endRound(bookFirst ? byFirst : bySecond, bookFirst ? bySecond : byFirst);
     return duel.winner();
   }
@@ -344,8 +345,8 @@ public final class DuelSchema {
     if (duel.purseOf(duellist) < 1) {
       throw new IllegalStateException("there is no coin");
     }
-    int byBook = runner.follow(queryOfRound, bookPlanOfRound, emptyTrial());
-    int byCounts = runner.follow(queryOfRound, countPlanOfRound, emptyTrial());
+    int byBook = runner.follow(store, queryOfRound, bookPlanOfRound, emptyTrial());
+    int byCounts = runner.follow(store, queryOfRound, countPlanOfRound, emptyTrial());
     duel.endAppeal(duellist, byBook, byCounts);
     return duel.winner();
   }
@@ -480,16 +481,13 @@ public final class DuelSchema {
     if (!asked.hasPosition(place)) {
       throw new NoSuchElementException("no such place");
     }
-    return drawPlan(duellist, asked);
-  }
-
-  private Plan drawPlan(int duellist, Query asked) {
-    planner.draw(askedPlan, duellist, asked, duel.bansFor(duellist));
+    planner.draw(askedPlan, duellist, store, asked, duel.bansFor(duellist));
     return askedPlan;
   }
 
   private void runCold(int duellist, Query asked) {
-    runner.follow(asked, drawPlan(duellist, asked), emptyTrial());
+    planner.draw(askedPlan, duellist, store, asked, duel.bansFor(duellist));
+    runner.follow(store, asked, askedPlan, emptyTrial());
   }
 
   private Cache emptyTrial() {
@@ -515,7 +513,8 @@ public final class DuelSchema {
     int found = runner.foundCount();
     long mark = runner.foundMark();
     for (int duellist = 0; duellist < DUELLISTS; duellist++) {
-      runner.follow(asked, drawPlan(duellist, asked), emptyTrial());
+      planner.draw(askedPlan, duellist, store, asked, duel.bansFor(duellist));
+      runner.follow(store, asked, askedPlan, emptyTrial());
       boolean same = runner.foundCount() == found && runner.foundMark() == mark;
       if (!same || runner.missCount() > runner.readCount()
           || askedPlan.usesAnyOf(duel.bansFor(duellist))) {
@@ -1188,7 +1187,6 @@ public final class DuelSchema {
 
   /** Draws the plans of both duellists, by the book and by the counts. */
   private static final class Planner {
-    private final Store store;
     private final Plan draft = new Plan();
     // Shares, costs and indexes do not depend on the order, so they are taken once for each plan.
     private final int[] conditionShares = new int[MOST_CONDITIONS];
@@ -1199,13 +1197,9 @@ public final class DuelSchema {
     private final int[] joinCosts = new int[MOST_JOINS * MOST_POSITIONS];
     private final int[] joinIndexes = new int[MOST_JOINS * MOST_POSITIONS];
 
-    Planner(Store store) {
-      this.store = store;
-    }
-
-    void draw(Plan plan, int duellist, Query query, int banned) {
-      takeConditions(query, banned);
-      takeJoins(query, banned);
+    void draw(Plan plan, int duellist, Store store, Query query, int banned) {
+      takeConditions(store, query, banned);
+      takeJoins(store, query, banned);
       if (duellist == 0) {
         drawByBook(plan, query);
       } else {
@@ -1213,7 +1207,7 @@ public final class DuelSchema {
       }
     }
 
-    private void takeConditions(Query query, int banned) {
+    private void takeConditions(Store store, Query query, int banned) {
       for (int number = 0; number < MOST_CONDITIONS; number++) {
         Condition condition = query.conditionAt(number);
         Table table = condition == null ? null : query.tableOf(condition.position());
@@ -1227,26 +1221,29 @@ public final class DuelSchema {
       }
     }
 
-    private void takeJoins(Query query, int banned) {
+    private void takeJoins(Store store, Query query, int banned) {
       for (int number = 0; number < MOST_JOINS; number++) {
         Join join = query.joinAt(number);
         int mostUnlike = 0;
         for (int position = 0; join != null && position < MOST_POSITIONS; position++) {
           Table table = query.tableOf(position);
           if (table != null && join.partnerOf(position) != NONE) {
-            takeJoinFrom(number, position, table, join.columnOf(position), banned);
-            mostUnlike = Math.max(mostUnlike, table.takenUnlike(join.columnOf(position)));
+            int column = join.columnOf(position);
+            int unlike = table.takenUnlike(column);
+            int cost = 1 + divided(table.takenRows(), unlike);
+            takeJoinFrom(number, position, cost, store.lowestIndexOn(table, column, banned));
+            mostUnlike = Math.max(mostUnlike, unlike);
           }
         }
         joinShares[number] = divided(THOUSAND, mostUnlike);
       }
     }
 
-    private void takeJoinFrom(int number, int position, Table table, int column, int banned) {
+    private void takeJoinFrom(int number, int position, int cost, int index) {
       int place = number * MOST_POSITIONS + position;
       if (place >= 0 && place < joinCosts.length && place < joinIndexes.length) {
-        joinCosts[place] = 1 + divided(table.takenRows(), table.takenUnlike(column));
-        joinIndexes[place] = store.lowestIndexOn(table, column, banned);
+        joinCosts[place] = cost;
+        joinIndexes[place] = index;
       }
     }
 
@@ -1382,8 +1379,8 @@ public final class DuelSchema {
 
   /** Goes through the rows of a query by a plan, and counts what is read, missed and found. */
   private static final class Runner {
-    private final Store store;
     private final Plan everyRow = new Plan();
+    private Store store = null;
     private Query query = null;
     private Plan plan = null;
     private Cache cache = null;
@@ -1398,10 +1395,6 @@ public final class DuelSchema {
     private int wantedColumn = 0;
     private int wantedRow = NONE;
     private long columnSum = 0;
-
-    Runner(Store store) {
-      this.store = store;
-    }
 
     int readCount() {
       return readCount;
@@ -1429,8 +1422,10 @@ public final class DuelSchema {
     }
 
     /** Runs a plan through a cache, and returns its misses. */
-    int follow(Query asked, Plan its, Cache through) {
-      begin(asked, its, through);
+    int follow(Store indexed, Query asked, Plan its, Cache through) {
+      begin(asked, its);
+      store = indexed;
+      cache = through;
       visit(0);
       return missCount;
     }
@@ -1438,17 +1433,18 @@ public final class DuelSchema {
     /** Tries all rows in the order of answers; keeps the row of one answer, and the sum of one column. */
     void tryAllRows(Query asked, int place, int position, int column) {
       everyRow.takeOrder(0, asked.size());
-      begin(asked, everyRow, null);
+      begin(asked, everyRow);
       wantedPlace = place;
       wantedPosition = position;
       wantedColumn = column;
       visit(0);
     }
 
-    private void begin(Query asked, Plan its, Cache through) {
+    private void begin(Query asked, Plan its) {
+      store = null;
       query = asked;
       plan = its;
-      cache = through;
+      cache = null;
       readCount = 0;
       missCount = 0;
       foundCount = 0;
@@ -1468,7 +1464,7 @@ public final class DuelSchema {
         return;
       }
       Table table = query.tableOf(plan.positionAt(place));
-      Index index = store.indexAt(plan.indexAt(place));
+      Index index = store == null ? null : store.indexAt(plan.indexAt(place));
       if (table != null && plan.wayAt(place) == BY_PAGES) {
         visitPages(place, table);
       } else if (table != null && index != null && index.size() > 0) {
