@@ -1,12 +1,5 @@
-import java.util.NoSuchElementException;
-
 /** Promises 30 to 36: bans, rounds, appeals, coins and misses. */
 public final class DuelTest {
-  private static final Class<IllegalArgumentException> ARGUMENT = IllegalArgumentException.class;
-  private static final Class<IllegalStateException> STATE = IllegalStateException.class;
-  private static final Class<IndexOutOfBoundsException> INDEX = IndexOutOfBoundsException.class;
-  private static final Class<NoSuchElementException> NONE = NoSuchElementException.class;
-  private static final Class<UnsupportedOperationException> UNSUPPORTED = UnsupportedOperationException.class;
   private static final int[] WRONG_DUELLISTS = {-1, 2, Integer.MIN_VALUE, Integer.MAX_VALUE};
 
   private final Check check;
@@ -48,15 +41,15 @@ public final class DuelTest {
   private void missesAre(DuelSchema x, int round, int book, int counts) {
     check.due("P34 round " + round + ", duellist 0", book, () -> x.misses(0, round));
     check.due("P34 round " + round + ", duellist 1", counts, () -> x.misses(1, round));
-    check.fails("P34 no round behind", NONE, () -> x.misses(0, x.rounds()));
+    check.fails("P34 no round behind", Check.NONE, () -> x.misses(0, x.rounds()));
   }
 
   private void rounds() {
     DuelSchema x = ready();
-    check.fails("P31 no query", INDEX, () -> x.round(3));
-    check.fails("P31 query -1", INDEX, () -> x.round(-1));
+    check.fails("P31 no query", Check.INDEX, () -> x.round(3));
+    check.fails("P31 query -1", Check.INDEX, () -> x.round(-1));
     x.query();
-    check.fails("P31 no position", UNSUPPORTED, () -> x.round(3));
+    check.fails("P31 no position", Check.UNSUPPORTED, () -> x.round(3));
     check.due("P36 none yet", 0, x::rounds);
     check.due("P31 a tie", -1, () -> x.round(0));
     coinsAre(x, "one each", 1, 1);
@@ -74,37 +67,37 @@ public final class DuelTest {
     check.due("P35 total", 3, () -> x.total(1));
     check.due("P36 rounds", 3, x::rounds);
     for (int wrong : WRONG_DUELLISTS) {
-      check.fails("P33 duellist", ARGUMENT, () -> x.coins(wrong));
-      check.fails("P34 duellist", ARGUMENT, () -> x.misses(wrong, 99));
-      check.fails("P35 duellist", ARGUMENT, () -> x.total(wrong));
+      check.fails("P33 duellist", Check.ARGUMENT, () -> x.coins(wrong));
+      check.fails("P34 duellist", Check.ARGUMENT, () -> x.misses(wrong, 99));
+      check.fails("P35 duellist", Check.ARGUMENT, () -> x.total(wrong));
     }
     for (int wrong : new int[] {-1, 3, 512, Integer.MAX_VALUE, Integer.MIN_VALUE, 1 << 30}) {
-      check.fails("P34 round " + wrong, NONE, () -> x.misses(1, wrong));
+      check.fails("P34 round " + wrong, Check.NONE, () -> x.misses(1, wrong));
     }
   }
 
   private void bans() {
     DuelSchema x = ready();
-    check.fails("P30 no coins", STATE, () -> x.ban(0, 0));
+    check.fails("P30 no coins", Check.STATE, () -> x.ban(0, 0));
     x.round(0);
-    check.fails("P30 one coin", STATE, () -> x.ban(0, 0));
+    check.fails("P30 one coin", Check.STATE, () -> x.ban(0, 0));
     for (int round = 0; round < 6; round++) {
       x.round(0);
     }
     for (int wrong : WRONG_DUELLISTS) {
-      check.fails("P30 duellist", ARGUMENT, () -> x.ban(wrong, 9));
+      check.fails("P30 duellist", Check.ARGUMENT, () -> x.ban(wrong, 9));
     }
-    check.fails("P30 no index", INDEX, () -> x.ban(0, 3));
-    check.fails("P30 index -1", INDEX, () -> x.ban(0, -1));
+    check.fails("P30 no index", Check.INDEX, () -> x.ban(0, 3));
+    check.fails("P30 index -1", Check.INDEX, () -> x.ban(0, -1));
     check.due("P26 the lowest one", 0, () -> x.usedIndex(0, 1, 0));
     check.due("P30 for the duellist 1", 5, () -> x.ban(0, 0));
     check.due("P26 the own index is not banned", 0, () -> x.usedIndex(0, 1, 0));
     check.due("P30 for the duellist 0", 5, () -> x.ban(1, 0));
     check.due("P26 the next one", 1, () -> x.usedIndex(0, 1, 0));
-    check.fails("P30 banned so already", UNSUPPORTED, () -> x.ban(1, 0));
+    check.fails("P30 banned so already", Check.UNSUPPORTED, () -> x.ban(1, 0));
     check.due("P30 a second one", 3, () -> x.ban(1, 1));
     check.due("P26 the last one", 2, () -> x.usedIndex(0, 1, 0));
-    check.fails("P30 two are", UNSUPPORTED, () -> x.ban(1, 2));
+    check.fails("P30 two are", Check.UNSUPPORTED, () -> x.ban(1, 2));
     coinsAre(x, "what is refused costs nothing", 5, 3);
     check.due("P29 with bans", 11, () -> x.reads(0, 1));
     check.due("P40 with bans", true, x::isSound);
@@ -169,14 +162,14 @@ public final class DuelTest {
   private void appeals() {
     DuelSchema x = ready();
     for (int wrong : WRONG_DUELLISTS) {
-      check.fails("P32 duellist", ARGUMENT, () -> x.appeal(wrong));
+      check.fails("P32 duellist", Check.ARGUMENT, () -> x.appeal(wrong));
     }
-    check.fails("P32 no round", UNSUPPORTED, () -> x.appeal(0));
+    check.fails("P32 no round", Check.UNSUPPORTED, () -> x.appeal(0));
     x.round(0);
     check.due("P32 again none", -1, () -> x.appeal(0));
     coinsAre(x, "the appeal is lost", 0, 1);
-    check.fails("P32 one has appealed", UNSUPPORTED, () -> x.appeal(0));
-    check.fails("P32 one has appealed, if the other one", UNSUPPORTED, () -> x.appeal(1));
+    check.fails("P32 one has appealed", Check.UNSUPPORTED, () -> x.appeal(0));
+    check.fails("P32 one has appealed, if the other one", Check.UNSUPPORTED, () -> x.appeal(1));
     check.due("P31 warm", 0, () -> x.round(1));
     coinsAre(x, "warm", 3, 1);
     missesAre(x, 1, 2, 3);
@@ -190,7 +183,7 @@ public final class DuelTest {
     x.flush();
     check.due("P31 cold for the duellist 0", 1, () -> x.round(1));
     missesAre(x, 2, 5, 0);
-    check.fails("P32 no coin", STATE, () -> x.appeal(0));
+    check.fails("P32 no coin", Check.STATE, () -> x.appeal(0));
     check.due("P32 the winner is the same", 1, () -> x.appeal(1));
     missesAre(x, 2, 5, 3);
     coinsAre(x, "the appeal is lost", 0, 6);
@@ -204,7 +197,7 @@ public final class DuelTest {
     coinsAre(x, "ahead", 4, 1);
     check.due("P30 a ban", 2, () -> x.ban(0, 0));
     check.due("P30 a ban", 0, () -> x.ban(0, 1));
-    check.fails("P32 no coin left", STATE, () -> x.appeal(0));
+    check.fails("P32 no coin left", Check.STATE, () -> x.appeal(0));
     // The coins of the round are taken back, but do not go below 0.
     check.due("P32 behind bans", 1, () -> x.appeal(1));
     coinsAre(x, "not below 0", 0, 4);
@@ -217,7 +210,7 @@ public final class DuelTest {
     check.due("P32 the winner is the same", 0, () -> y.appeal(0));
     coinsAre(y, "not below 0 ahead of the new coins", 2, 1);
     check.due("P26 bans stay for the next round", -1, () -> y.usedIndex(1, 2, 0));
-    check.fails("P30 so the index is banned still", UNSUPPORTED, () -> {
+    check.fails("P30 so the index is banned still", Check.UNSUPPORTED, () -> {
       y.round(2);
       y.ban(0, 0);
       return y.ban(0, 0);
@@ -270,7 +263,7 @@ public final class DuelTest {
       x.round(0);
       tell(x, told);
       if (told < 12) {
-        check.fails("P32 behind " + names[told], UNSUPPORTED, () -> x.appeal(0));
+        check.fails("P32 behind " + names[told], Check.UNSUPPORTED, () -> x.appeal(0));
         coinsAre(x, "behind " + names[told], 1, 1);
       } else {
         check.due("P32 behind " + names[told], -1, () -> x.appeal(0));
@@ -300,19 +293,19 @@ public final class DuelTest {
   }
 
   private void refused(DuelSchema x) {
-    check.fails("table", ARGUMENT, () -> x.table(0));
-    check.fails("bound", ARGUMENT, () -> x.bound(0, 0, 2, 1));
-    check.fails("insert", ARGUMENT, () -> x.insert(0, 100, 0, 0));
-    check.fails("remove", NONE, () -> x.remove(0, 9));
-    check.fails("count", INDEX, () -> x.count(2));
-    check.fails("index", ARGUMENT, () -> x.index(0, 1));
-    check.fails("frames", ARGUMENT, () -> x.frames(13));
-    check.fails("from", INDEX, () -> x.from(0, 2));
-    check.fails("where", ARGUMENT, () -> x.where(0, 0, 0, '?', 1));
-    check.fails("join", ARGUMENT, () -> x.join(0, 0, 0, 0, 0));
-    check.fails("round", INDEX, () -> x.round(3));
-    check.fails("ban", STATE, () -> x.ban(0, 0));
-    check.fails("appeal", ARGUMENT, () -> x.appeal(2));
+    check.fails("table", Check.ARGUMENT, () -> x.table(0));
+    check.fails("bound", Check.ARGUMENT, () -> x.bound(0, 0, 2, 1));
+    check.fails("insert", Check.ARGUMENT, () -> x.insert(0, 100, 0, 0));
+    check.fails("remove", Check.NONE, () -> x.remove(0, 9));
+    check.fails("count", Check.INDEX, () -> x.count(2));
+    check.fails("index", Check.ARGUMENT, () -> x.index(0, 1));
+    check.fails("frames", Check.ARGUMENT, () -> x.frames(13));
+    check.fails("from", Check.INDEX, () -> x.from(0, 2));
+    check.fails("where", Check.ARGUMENT, () -> x.where(0, 0, 0, '?', 1));
+    check.fails("join", Check.ARGUMENT, () -> x.join(0, 0, 0, 0, 0));
+    check.fails("round", Check.INDEX, () -> x.round(3));
+    check.fails("ban", Check.STATE, () -> x.ban(0, 0));
+    check.fails("appeal", Check.ARGUMENT, () -> x.appeal(2));
   }
 
   private void asked(DuelSchema x) {
@@ -348,7 +341,7 @@ public final class DuelTest {
     }
     check.due("P36 rounds", 480, x::rounds);
     check.due("P34 the last one", 0, () -> x.misses(1, 479));
-    check.fails("P34 behind the last one", NONE, () -> x.misses(1, 480));
+    check.fails("P34 behind the last one", Check.NONE, () -> x.misses(1, 480));
   }
 
   public static void main(String[] args) {

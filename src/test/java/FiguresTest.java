@@ -1,10 +1,5 @@
 /** Promises 37 to 40: the print, the shares and means, and the soundness of the store. */
 public final class FiguresTest {
-  private static final Class<IllegalArgumentException> ARGUMENT = IllegalArgumentException.class;
-  private static final Class<IndexOutOfBoundsException> INDEX = IndexOutOfBoundsException.class;
-  private static final Class<UnsupportedOperationException> UNSUPPORTED = UnsupportedOperationException.class;
-  private static final Class<ArithmeticException> ARITHMETIC = ArithmeticException.class;
-
   private final Check check;
 
   private FiguresTest(Check check) {
@@ -62,13 +57,13 @@ public final class FiguresTest {
     x.table(1);
     x.table(1);
     x.query();
-    check.fails("P38 no duellist", ARGUMENT, () -> x.hitShare(2, 9));
-    check.fails("P38 duellist -1", ARGUMENT, () -> x.hitShare(-1, 0));
-    check.fails("P38 no query", INDEX, () -> x.hitShare(0, 1));
-    check.fails("P38 query -1", INDEX, () -> x.hitShare(1, -1));
-    check.fails("P38 no position", UNSUPPORTED, () -> x.hitShare(0, 0));
+    check.fails("P38 no duellist", Check.ARGUMENT, () -> x.hitShare(2, 9));
+    check.fails("P38 duellist -1", Check.ARGUMENT, () -> x.hitShare(-1, 0));
+    check.fails("P38 no query", Check.INDEX, () -> x.hitShare(0, 1));
+    check.fails("P38 query -1", Check.INDEX, () -> x.hitShare(1, -1));
+    check.fails("P38 no position", Check.UNSUPPORTED, () -> x.hitShare(0, 0));
     x.from(0, 0);
-    check.fails("P38 nothing to read", ARITHMETIC, () -> x.hitShare(0, 0));
+    check.fails("P38 nothing to read", Check.ARITHMETIC, () -> x.hitShare(0, 0));
     x.from(0, 1);
     x.insert(0, 1, 0, 0);
     x.insert(0, 2, 0, 0);
@@ -93,7 +88,7 @@ public final class FiguresTest {
     x.table(1);
     x.query();
     x.from(0, 0);
-    check.fails("P39 no round", ARITHMETIC, x::meanMisses);
+    check.fails("P39 no round", Check.ARITHMETIC, x::meanMisses);
     x.round(0);
     check.due("P39 no misses", 0.0, x::meanMisses);
     x.insert(0, 0, 0, 0);

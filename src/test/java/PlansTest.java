@@ -1,12 +1,5 @@
-import java.util.NoSuchElementException;
-
 /** Promises 24 to 29: plans by the book and by the counts, their estimates and what they read. */
 public final class PlansTest {
-  private static final Class<IllegalArgumentException> ARGUMENT = IllegalArgumentException.class;
-  private static final Class<IndexOutOfBoundsException> INDEX = IndexOutOfBoundsException.class;
-  private static final Class<NoSuchElementException> NONE = NoSuchElementException.class;
-  private static final Class<UnsupportedOperationException> UNSUPPORTED = UnsupportedOperationException.class;
-
   private final Check check;
 
   private PlansTest(Check check) {
@@ -39,9 +32,9 @@ public final class PlansTest {
       check.due("P26 " + what, indexes[at], () -> x.usedIndex(duellist, 0, at));
     }
     for (int place : new int[] {-1, indexes.length, Integer.MAX_VALUE, Integer.MIN_VALUE}) {
-      check.fails("P24 place " + place, NONE, () -> x.planned(duellist, 0, place));
-      check.fails("P25 place " + place, NONE, () -> x.way(duellist, 0, place));
-      check.fails("P26 place " + place, NONE, () -> x.usedIndex(duellist, 0, place));
+      check.fails("P24 place " + place, Check.NONE, () -> x.planned(duellist, 0, place));
+      check.fails("P25 place " + place, Check.NONE, () -> x.way(duellist, 0, place));
+      check.fails("P26 place " + place, Check.NONE, () -> x.usedIndex(duellist, 0, place));
     }
   }
 
@@ -56,24 +49,24 @@ public final class PlansTest {
     planIs(x, 0, "", "");
     planIs(x, 1, "", "");
     for (int duellist : new int[] {-1, 2, Integer.MIN_VALUE, Integer.MAX_VALUE}) {
-      check.fails("P24 duellist", ARGUMENT, () -> x.planned(duellist, 9, 9));
-      check.fails("P25 duellist", ARGUMENT, () -> x.way(duellist, 9, 9));
-      check.fails("P26 duellist", ARGUMENT, () -> x.usedIndex(duellist, 9, 9));
-      check.fails("P27 duellist", ARGUMENT, () -> x.estimate(duellist, 9));
-      check.fails("P28 duellist", ARGUMENT, () -> x.cold(duellist, 9));
-      check.fails("P29 duellist", ARGUMENT, () -> x.reads(duellist, 9));
+      check.fails("P24 duellist", Check.ARGUMENT, () -> x.planned(duellist, 9, 9));
+      check.fails("P25 duellist", Check.ARGUMENT, () -> x.way(duellist, 9, 9));
+      check.fails("P26 duellist", Check.ARGUMENT, () -> x.usedIndex(duellist, 9, 9));
+      check.fails("P27 duellist", Check.ARGUMENT, () -> x.estimate(duellist, 9));
+      check.fails("P28 duellist", Check.ARGUMENT, () -> x.cold(duellist, 9));
+      check.fails("P29 duellist", Check.ARGUMENT, () -> x.reads(duellist, 9));
     }
     for (int query : new int[] {-1, 1, 8}) {
-      check.fails("P24 query", INDEX, () -> x.planned(0, query, 0));
-      check.fails("P25 query", INDEX, () -> x.way(0, query, 0));
-      check.fails("P26 query", INDEX, () -> x.usedIndex(0, query, 0));
-      check.fails("P27 query", INDEX, () -> x.estimate(0, query));
-      check.fails("P28 query", INDEX, () -> x.cold(1, query));
-      check.fails("P29 query", INDEX, () -> x.reads(1, query));
+      check.fails("P24 query", Check.INDEX, () -> x.planned(0, query, 0));
+      check.fails("P25 query", Check.INDEX, () -> x.way(0, query, 0));
+      check.fails("P26 query", Check.INDEX, () -> x.usedIndex(0, query, 0));
+      check.fails("P27 query", Check.INDEX, () -> x.estimate(0, query));
+      check.fails("P28 query", Check.INDEX, () -> x.cold(1, query));
+      check.fails("P29 query", Check.INDEX, () -> x.reads(1, query));
     }
-    check.fails("P27 no position", UNSUPPORTED, () -> x.estimate(1, 0));
-    check.fails("P28 no position", UNSUPPORTED, () -> x.cold(0, 0));
-    check.fails("P29 no position", UNSUPPORTED, () -> x.reads(0, 0));
+    check.fails("P27 no position", Check.UNSUPPORTED, () -> x.estimate(1, 0));
+    check.fails("P28 no position", Check.UNSUPPORTED, () -> x.cold(0, 0));
+    check.fails("P29 no position", Check.UNSUPPORTED, () -> x.reads(0, 0));
   }
 
   private void book() {

@@ -1,13 +1,5 @@
-import java.util.NoSuchElementException;
-
 /** Promises 17 to 23: queries and their answers. */
 public final class QueriesTest {
-  private static final Class<IllegalArgumentException> ARGUMENT = IllegalArgumentException.class;
-  private static final Class<IllegalStateException> STATE = IllegalStateException.class;
-  private static final Class<IndexOutOfBoundsException> INDEX = IndexOutOfBoundsException.class;
-  private static final Class<NoSuchElementException> NONE = NoSuchElementException.class;
-  private static final Class<UnsupportedOperationException> UNSUPPORTED = UnsupportedOperationException.class;
-
   private final Check check;
 
   private QueriesTest(Check check) {
@@ -36,74 +28,74 @@ public final class QueriesTest {
       int due = number;
       check.due("P17 query " + number, due, x::query);
     }
-    check.fails("P17 a ninth", STATE, x::query);
-    check.fails("P17 without positions", UNSUPPORTED, () -> x.answers(7));
+    check.fails("P17 a ninth", Check.STATE, x::query);
+    check.fails("P17 without positions", Check.UNSUPPORTED, () -> x.answers(7));
   }
 
   private void from() {
     DuelSchema x = small();
     x.query();
-    check.fails("P18 no query", INDEX, () -> x.from(1, 0));
-    check.fails("P18 query -1", INDEX, () -> x.from(-1, 0));
-    check.fails("P18 no table", INDEX, () -> x.from(0, 2));
+    check.fails("P18 no query", Check.INDEX, () -> x.from(1, 0));
+    check.fails("P18 query -1", Check.INDEX, () -> x.from(-1, 0));
+    check.fails("P18 no table", Check.INDEX, () -> x.from(0, 2));
     check.due("P18 first", 1, () -> x.from(0, 0));
     check.due("P18 the same table", 2, () -> x.from(0, 0));
     check.due("P18 third", 3, () -> x.from(0, 1));
-    check.fails("P18 a fourth", STATE, () -> x.from(0, 0));
-    check.fails("P18 a fourth of no table", INDEX, () -> x.from(0, 2));
+    check.fails("P18 a fourth", Check.STATE, () -> x.from(0, 0));
+    check.fails("P18 a fourth of no table", Check.INDEX, () -> x.from(0, 2));
   }
 
   private void where() {
     DuelSchema x = small();
     x.query();
-    check.fails("P19 no position yet", ARGUMENT, () -> x.where(0, 0, 0, '=', 1));
+    check.fails("P19 no position yet", Check.ARGUMENT, () -> x.where(0, 0, 0, '=', 1));
     x.from(0, 1);
     x.from(0, 0);
-    check.fails("P19 no query", INDEX, () -> x.where(1, 9, 9, '!', 100));
-    check.fails("P19 no position", ARGUMENT, () -> x.where(0, 2, 0, '=', 1));
-    check.fails("P19 position -1", ARGUMENT, () -> x.where(0, -1, 0, '=', 1));
-    check.fails("P19 no column", ARGUMENT, () -> x.where(0, 0, 1, '=', 1));
-    check.fails("P19 column -1", ARGUMENT, () -> x.where(0, 0, -1, '=', 1));
-    check.fails("P19 no sign", ARGUMENT, () -> x.where(0, 0, 0, '!', 1));
-    check.fails("P19 value 100", ARGUMENT, () -> x.where(0, 0, 0, '<', 100));
-    check.fails("P19 value -1", ARGUMENT, () -> x.where(0, 0, 0, '>', -1));
+    check.fails("P19 no query", Check.INDEX, () -> x.where(1, 9, 9, '!', 100));
+    check.fails("P19 no position", Check.ARGUMENT, () -> x.where(0, 2, 0, '=', 1));
+    check.fails("P19 position -1", Check.ARGUMENT, () -> x.where(0, -1, 0, '=', 1));
+    check.fails("P19 no column", Check.ARGUMENT, () -> x.where(0, 0, 1, '=', 1));
+    check.fails("P19 column -1", Check.ARGUMENT, () -> x.where(0, 0, -1, '=', 1));
+    check.fails("P19 no sign", Check.ARGUMENT, () -> x.where(0, 0, 0, '!', 1));
+    check.fails("P19 value 100", Check.ARGUMENT, () -> x.where(0, 0, 0, '<', 100));
+    check.fails("P19 value -1", Check.ARGUMENT, () -> x.where(0, 0, 0, '>', -1));
     check.due("P19 first", 1, () -> x.where(0, 1, 1, '=', 0));
     check.due("P19 second", 2, () -> x.where(0, 0, 0, '<', 99));
     check.due("P19 third", 3, () -> x.where(0, 0, 0, '>', 0));
     check.due("P19 told twice", 4, () -> x.where(0, 0, 0, '>', 0));
-    check.fails("P19 a fifth", STATE, () -> x.where(0, 0, 0, '>', 0));
-    check.fails("P19 a wrong fifth", ARGUMENT, () -> x.where(0, 0, 0, '>', 100));
+    check.fails("P19 a fifth", Check.STATE, () -> x.where(0, 0, 0, '>', 0));
+    check.fails("P19 a wrong fifth", Check.ARGUMENT, () -> x.where(0, 0, 0, '>', 100));
   }
 
   private void join() {
     DuelSchema x = small();
     x.query();
     x.from(0, 0);
-    check.fails("P20 no other position yet", ARGUMENT, () -> x.join(0, 0, 0, 1, 0));
+    check.fails("P20 no other position yet", Check.ARGUMENT, () -> x.join(0, 0, 0, 1, 0));
     x.from(0, 1);
-    check.fails("P20 no query", INDEX, () -> x.join(1, 0, 0, 0, 0));
-    check.fails("P20 the same position", ARGUMENT, () -> x.join(0, 0, 0, 0, 1));
-    check.fails("P20 no column", ARGUMENT, () -> x.join(0, 0, 2, 1, 0));
-    check.fails("P20 no column of the other", ARGUMENT, () -> x.join(0, 0, 0, 1, 1));
-    check.fails("P20 column -1", ARGUMENT, () -> x.join(0, 0, -1, 1, 0));
-    check.fails("P20 its -1", ARGUMENT, () -> x.join(0, 0, 0, 1, -1));
-    check.fails("P20 position -1", ARGUMENT, () -> x.join(0, -1, 0, 1, 0));
-    check.fails("P20 other 2", ARGUMENT, () -> x.join(0, 0, 0, 2, 0));
+    check.fails("P20 no query", Check.INDEX, () -> x.join(1, 0, 0, 0, 0));
+    check.fails("P20 the same position", Check.ARGUMENT, () -> x.join(0, 0, 0, 0, 1));
+    check.fails("P20 no column", Check.ARGUMENT, () -> x.join(0, 0, 2, 1, 0));
+    check.fails("P20 no column of the other", Check.ARGUMENT, () -> x.join(0, 0, 0, 1, 1));
+    check.fails("P20 column -1", Check.ARGUMENT, () -> x.join(0, 0, -1, 1, 0));
+    check.fails("P20 its -1", Check.ARGUMENT, () -> x.join(0, 0, 0, 1, -1));
+    check.fails("P20 position -1", Check.ARGUMENT, () -> x.join(0, -1, 0, 1, 0));
+    check.fails("P20 other 2", Check.ARGUMENT, () -> x.join(0, 0, 0, 2, 0));
     check.due("P20 first", 1, () -> x.join(0, 0, 1, 1, 0));
     check.due("P20 told twice", 2, () -> x.join(0, 0, 1, 1, 0));
     check.due("P20 third, from the other side", 3, () -> x.join(0, 1, 0, 0, 1));
-    check.fails("P20 a fourth", STATE, () -> x.join(0, 0, 1, 1, 0));
-    check.fails("P20 a wrong fourth", ARGUMENT, () -> x.join(0, 0, 1, 0, 0));
+    check.fails("P20 a fourth", Check.STATE, () -> x.join(0, 0, 1, 1, 0));
+    check.fails("P20 a wrong fourth", Check.ARGUMENT, () -> x.join(0, 0, 1, 0, 0));
   }
 
   private void answers() {
     DuelSchema x = small();
     x.query();
-    check.fails("P21 no query", INDEX, () -> x.answers(1));
-    check.fails("P21 query -1", INDEX, () -> x.answers(-1));
-    check.fails("P21 no position", UNSUPPORTED, () -> x.answers(0));
-    check.fails("P22 no position", ARGUMENT, () -> x.answerAt(0, 0, 0));
-    check.fails("P23 no position", ARGUMENT, () -> x.sum(0, 0, 0));
+    check.fails("P21 no query", Check.INDEX, () -> x.answers(1));
+    check.fails("P21 query -1", Check.INDEX, () -> x.answers(-1));
+    check.fails("P21 no position", Check.UNSUPPORTED, () -> x.answers(0));
+    check.fails("P22 no position", Check.ARGUMENT, () -> x.answerAt(0, 0, 0));
+    check.fails("P23 no position", Check.ARGUMENT, () -> x.sum(0, 0, 0));
     x.from(0, 0);
     answersAre(x, new int[][] {{0}, {2}, {3}});
     x.from(0, 1);
@@ -121,13 +113,13 @@ public final class QueriesTest {
     x.where(0, 1, 0, '>', 5);
     answersAre(x, new int[][] {});
     check.due("P23 sum of none", 0L, () -> x.sum(0, 0, 0));
-    check.fails("P22 no query", INDEX, () -> x.answerAt(1, 0, 0));
-    check.fails("P22 position 2", ARGUMENT, () -> x.answerAt(0, 0, 2));
-    check.fails("P22 position -1", ARGUMENT, () -> x.answerAt(0, 0, -1));
-    check.fails("P23 no query", INDEX, () -> x.sum(1, 0, 0));
-    check.fails("P23 position 2", ARGUMENT, () -> x.sum(0, 2, 0));
-    check.fails("P23 column", ARGUMENT, () -> x.sum(0, 1, 1));
-    check.fails("P23 column -1", ARGUMENT, () -> x.sum(0, 1, -1));
+    check.fails("P22 no query", Check.INDEX, () -> x.answerAt(1, 0, 0));
+    check.fails("P22 position 2", Check.ARGUMENT, () -> x.answerAt(0, 0, 2));
+    check.fails("P22 position -1", Check.ARGUMENT, () -> x.answerAt(0, 0, -1));
+    check.fails("P23 no query", Check.INDEX, () -> x.sum(1, 0, 0));
+    check.fails("P23 position 2", Check.ARGUMENT, () -> x.sum(0, 2, 0));
+    check.fails("P23 column", Check.ARGUMENT, () -> x.sum(0, 1, 1));
+    check.fails("P23 column -1", Check.ARGUMENT, () -> x.sum(0, 1, -1));
   }
 
   private void answersAre(DuelSchema x, int[][] rows) {
@@ -140,7 +132,7 @@ public final class QueriesTest {
       }
     }
     for (int wild : new int[] {-1, rows.length, Integer.MAX_VALUE, Integer.MIN_VALUE}) {
-      check.fails("P22 place " + wild, NONE, () -> x.answerAt(0, wild, 0));
+      check.fails("P22 place " + wild, Check.NONE, () -> x.answerAt(0, wild, 0));
     }
   }
 
