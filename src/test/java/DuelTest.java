@@ -293,19 +293,19 @@ public final class DuelTest {
   }
 
   private void refused(DuelSchema x) {
-    check.fails("table", Check.ARGUMENT, () -> x.table(0));
-    check.fails("bound", Check.ARGUMENT, () -> x.bound(0, 0, 2, 1));
-    check.fails("insert", Check.ARGUMENT, () -> x.insert(0, 100, 0, 0));
-    check.fails("remove", Check.NONE, () -> x.remove(0, 9));
-    check.fails("count", Check.INDEX, () -> x.count(2));
-    check.fails("index", Check.ARGUMENT, () -> x.index(0, 1));
-    check.fails("frames", Check.ARGUMENT, () -> x.frames(13));
-    check.fails("from", Check.INDEX, () -> x.from(0, 2));
-    check.fails("where", Check.ARGUMENT, () -> x.where(0, 0, 0, '?', 1));
-    check.fails("join", Check.ARGUMENT, () -> x.join(0, 0, 0, 0, 0));
-    check.fails("round", Check.INDEX, () -> x.round(3));
-    check.fails("ban", Check.STATE, () -> x.ban(0, 0));
-    check.fails("appeal", Check.ARGUMENT, () -> x.appeal(2));
+    check.fails("P2 table", Check.ARGUMENT, () -> x.table(0));
+    check.fails("P3 bound", Check.ARGUMENT, () -> x.bound(0, 0, 2, 1));
+    check.fails("P4 insert", Check.ARGUMENT, () -> x.insert(0, 100, 0, 0));
+    check.fails("P5 remove", Check.NONE, () -> x.remove(0, 9));
+    check.fails("P6 count", Check.INDEX, () -> x.count(2));
+    check.fails("P7 index", Check.ARGUMENT, () -> x.index(0, 1));
+    check.fails("P8 frames", Check.ARGUMENT, () -> x.frames(13));
+    check.fails("P18 from", Check.INDEX, () -> x.from(0, 2));
+    check.fails("P19 where", Check.ARGUMENT, () -> x.where(0, 0, 0, '?', 1));
+    check.fails("P20 join", Check.ARGUMENT, () -> x.join(0, 0, 0, 0, 0));
+    check.fails("P31 round", Check.INDEX, () -> x.round(3));
+    check.fails("P30 ban", Check.STATE, () -> x.ban(0, 0));
+    check.fails("P32 appeal", Check.ARGUMENT, () -> x.appeal(2));
   }
 
   private void asked(DuelSchema x) {
